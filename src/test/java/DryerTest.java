@@ -4,6 +4,7 @@ public final class DryerTest {
 
     public static void main(String[] args) {
         wrongInputs();
+        leadsAtFirst();
         sparkAtOnce();
         dangerFades();
         waterWhereItIsNow();
@@ -43,6 +44,19 @@ public final class DryerTest {
         CHECK.due("link(7, 3, 7)", x.link(7, 3, 7), true);
         CHECK.due("state(7)", x.state(7, true, true), true);
         dueNone("state 7 is not reached", x);
+    }
+
+    private static void leadsAtFirst() {
+        for (int state = 1; state < 8; state++) {
+            ChipBoards x = new ChipBoards();
+            x.link(0, 3, state);
+            x.state(state, true, true);
+            dueRow("STATE " + state + " leads to itself by a spark", x, 3, 1);
+            x.link(state, 1, 0);
+            dueNone("no longer", x);
+            x.link(0, 1, state);
+            dueRow("the spark leads there", x, 1);
+        }
     }
 
     private static void sparkAtOnce() {

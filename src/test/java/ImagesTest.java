@@ -7,6 +7,7 @@ public final class ImagesTest {
         allIsKept();
         imagesStay();
         imageIsOverwritten();
+        otherHistory();
         CHECK.finish();
     }
 
@@ -23,9 +24,13 @@ public final class ImagesTest {
         CHECK.due("again(2)", x.again(2), true);
     }
 
-    /** Two histories with no answer in common where it can be helped. */
     private static ChipBoards told() {
         ChipBoards x = new ChipBoards();
+        retell(x);
+        return x;
+    }
+
+    private static void retell(ChipBoards x) {
         x.bin(8, false);
         x.bin(2, true);
         x.fill(0, 5000);
@@ -44,7 +49,6 @@ public final class ImagesTest {
         x.link(3, 1, 3);
         x.state(3, true, true);
         x.sheet(2, 3, 40);
-        return x;
     }
 
     private static void change(ChipBoards x) {
@@ -138,6 +142,46 @@ public final class ImagesTest {
             dueAlike("image 2", answers(x), later);
         }
         CHECK.due("there is still no image 1", x.again(1), false);
+    }
+
+    /** As many of each as in told(), but with other numbers. */
+    private static void tellOtherwise(ChipBoards x) {
+        x.bin(1, true);
+        x.bin(17, false);
+        x.fill(0, 900);
+        x.fill(1, 3000);
+        x.lot(400);
+        x.lot(20);
+        x.lay(1, 1, 150);
+        x.lay(0, 1, 250);
+        x.plate(111);
+        x.link(0, 2, 2);
+        x.state(2, true, false);
+        x.sheet(3, 2, 55);
+    }
+
+    private static void otherHistory() {
+        long[] want = answers(told());
+        ChipBoards y = new ChipBoards();
+        tellOtherwise(y);
+        long[] other = answers(y);
+        ChipBoards z = new ChipBoards();
+        z.image(0);
+        tellOtherwise(z);
+        z.image(1);
+        z.again(0);
+        retell(z);
+        dueAlike("told upon a new image", answers(z), want);
+        z.image(2);
+        z.again(1);
+        dueAlike("the other history", answers(z), other);
+        CHECK.due("its LIMIT", z.lay(1, 0, 100), -1);
+        CHECK.due("its USED bin", z.lay(0, 1, 100), 2);
+        CHECK.due("its used chips", z.mat(2, 3), 40);
+        CHECK.due("its bins' DAMP", z.mat(2, 2), 10);
+        z.again(2);
+        dueAlike("the first history", answers(z), want);
+        dueRulesAreBack(z);
     }
 
     private static void imageIsOverwritten() {

@@ -38,6 +38,8 @@ public final class MatsTest {
         x.rule(1, 100);
         CHECK.due("lay the other way", x.lay(0, 1, 1000), 1);
         CHECK.due("its DAMP", x.mat(1, 2), 9);
+        CHECK.due("BIN of its faces", x.mat(1, 4), 0);
+        CHECK.due("BIN of its core", x.mat(1, 5), 1);
         CHECK.due("its used chips", x.mat(1, 3), 600);
         CHECK.due("lay of used alone", x.lay(1, 1, 1000), 2);
         CHECK.due("all of it used", x.mat(2, 3), 1000);
@@ -67,17 +69,24 @@ public final class MatsTest {
         x.lot(9);
         CHECK.due("core's bin has too little", x.lay(0, 1, 100), -1);
         x.fill(1, 1);
+        x.fill(1, 100);
         CHECK.due("faces' bin has too little", x.lay(0, 1, 103), -1);
+        CHECK.due("and as the core's", x.lay(1, 0, 100), -1);
         CHECK.due("glue too little", x.lay(0, 1, 100), -1);
         CHECK.due("nothing was taken: bin 0", x.count(10), 40);
-        CHECK.due("nothing was taken: bin 1", x.count(11), 60);
+        CHECK.due("nothing was taken: bin 1", x.count(11), 160);
         CHECK.due("nothing was taken: lot", x.count(20), 9);
         CHECK.due("no mat", x.count(2), 0);
         x.lot(1);
         CHECK.due("just enough", x.lay(0, 1, 100), 0);
-        CHECK.due("all chips are gone", x.count(5), 0);
+        CHECK.due("all of bin 0 is gone", x.count(10), 0);
+        CHECK.due("not of bin 1", x.count(11), 100);
         CHECK.due("all glue is gone", x.count(6), 0);
         CHECK.due("of both lots", x.mat(0, 6), 3);
+        x.fill(0, 66);
+        x.lot(16);
+        CHECK.due("just enough in both bins", x.lay(0, 1, 166), 1);
+        CHECK.due("all chips are gone", x.count(5), 0);
     }
 
     private static void sameBin() {

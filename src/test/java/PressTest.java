@@ -6,6 +6,7 @@ public final class PressTest {
         plates();
         times();
         lastTick();
+        needAtFirst();
         fastest();
         press();
         shells();
@@ -69,6 +70,15 @@ public final class PressTest {
         CHECK.due("no fastest", x.fastest(0), -1);
         CHECK.due("not pressed", x.press(0, 0), false);
         CHECK.due("none was", x.count(7), 0);
+    }
+
+    private static void needAtFirst() {
+        ChipBoards x = withMats(3);
+        x.plate(218);
+        CHECK.due("the least CURE after 64 is 200", x.shell(0, 0, 64, 4, 1), 200);
+        CHECK.due("NEED is 200 at first", x.time(0, 0), 64);
+        x.rule(2, 201);
+        CHECK.due("NEED 201", x.time(0, 0), 65);
     }
 
     private static void fastest() {
@@ -167,7 +177,9 @@ public final class PressTest {
         CHECK.due("shell of mat 2", x.shell(2, 0, 0, 0, 0), -1);
         CHECK.due("shell of plate 1", x.shell(0, 1, 0, 0, 0), -1);
         CHECK.due("ticks 401", x.shell(0, 0, 401, 0, 0), -1);
-        CHECK.due("shell 9", x.shell(0, 0, 0, 9, 0), -1);
+        for (int what = 0; what < 3; what++) {
+            CHECK.due("shell 9, what " + what, x.shell(0, 0, 0, 9, what), -1);
+        }
         CHECK.due("what 3", x.shell(0, 0, 0, 0, 3), -1);
     }
 }

@@ -9,6 +9,7 @@ public final class SheetsTest {
         wholeAheadOfCuts();
         uprightAheadOfLevel();
         leastFirstBoard();
+        cutsAskedFirst();
         notTurned();
         changesAreSeen();
         greatest();
@@ -64,10 +65,17 @@ public final class SheetsTest {
             dueWay("SAW " + saw + ", just two", x, 4 + saw, 2, 10, 1, 2);
             dueWay("SAW " + saw + ", level, not two", x, 2, 3 + saw, 5, 0, 1);
             dueWay("SAW " + saw + ", level, just two", x, 2, 4 + saw, 10, 1, 2);
+            dueWay("SAW " + saw + ", as much as there is", x, 24, 24, 5 * many(saw) * many(saw),
+                    many(saw) * many(saw) - 1, many(saw) * many(saw));
         }
         ChipBoards x = new ChipBoards();
         x.sheet(2, 2, 5);
         dueWay("SAW is 1 at first", x, 5, 2, 10, 1, 2);
+    }
+
+    /** How many 2 wide go into 24. */
+    private static int many(int saw) {
+        return (24 + saw) / (2 + saw);
     }
 
     private static void wholeAheadOfCuts() {
@@ -117,6 +125,16 @@ public final class SheetsTest {
         z.sheet(2, 1, 5);
         dueWay("a lost first BOARD is no way of more cuts", z, 3, 1, 5, 0, 1);
         dueWay("1 (lost) and 4, ahead of 2 and 3, though of more cuts", z, 5, 1, 10, 2, 2);
+    }
+
+    private static void cutsAskedFirst() {
+        ChipBoards x = new ChipBoards();
+        x.sheet(2, 2, 5);
+        CHECK.due("cuts ahead of best", x.cuts(5, 2, -1), 1);
+        x.sheet(5, 1, 11);
+        CHECK.due("sheets ahead of best", x.cuts(5, 2, 1), 1);
+        x.rule(3, 0);
+        CHECK.due("and with another SAW", x.cuts(5, 2, 1), 2);
     }
 
     private static void notTurned() {
