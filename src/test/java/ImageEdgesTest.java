@@ -196,6 +196,7 @@ public final class ImageEdgesTest {
     private static void againOfAnotherHistory() {
         dueHistory("full in between", States::some, States::full);
         dueHistory("some in between", States::full, States::some);
+        dueHistory("one less of each in between", States::full, States::oneShort);
     }
 
     private static void dueHistory(String name, Consumer<ChipBoards> first, Consumer<ChipBoards> between) {

@@ -56,7 +56,7 @@ public final class RandomRunsTest {
     private void stock(String name) {
         int a = pick(0, 5);
         int b = pick(0, 5);
-        int bins = Math.max(0, x.count(0) - 1);
+        int bins = Math.max(0, y.count(0) - 1);
         boolean flag = random.nextBoolean();
         switch (random.nextInt(8)) {
             case 0: a = pick(0, 20); CHECK.due(name + " bin", x.bin(a, flag), y.bin(a, flag)); break;
@@ -82,13 +82,13 @@ public final class RandomRunsTest {
     }
 
     private void mat(String name) {
-        int mat = pick(0, Math.max(0, x.count(2) - 1));
+        int mat = pick(0, Math.max(0, y.count(2) - 1));
         int what = pick(0, 7);
         CHECK.due(name + " mat", x.mat(mat, what), y.mat(mat, what));
     }
 
     private void press(String name) {
-        int mat = pick(0, Math.max(0, x.count(2) - 1));
+        int mat = pick(0, Math.max(0, y.count(2) - 1));
         int plate = pick(0, 3);
         switch (random.nextInt(6)) {
             case 0: plate = pick(100, 250); CHECK.due(name + " plate", x.plate(plate), y.plate(plate)); break;
@@ -136,7 +136,7 @@ public final class RandomRunsTest {
             case 1: rule(name, 3); break;
             case 2: CHECK.due(name + " best", x.best(w, h), y.best(w, h)); break;
             default:
-                int sheet = pick(-1, Math.max(0, x.count(4) - 1));
+                int sheet = pick(-1, Math.max(0, y.count(4) - 1));
                 CHECK.due(name + " cuts", x.cuts(w, h, sheet), y.cuts(w, h, sheet));
                 break;
         }

@@ -11,6 +11,7 @@ public final class SheetEdgesTest {
         sheetOfOtherSides();
         sheetOfAnotherWorth();
         sheetOfTheMost();
+        sheetCountsAtOnce();
         bestOfNoBoard();
         bestWithoutSheets();
         bestOfTheLeastAndTheGreatest();
@@ -105,6 +106,19 @@ public final class SheetEdgesTest {
         dueWay("the least", sheets(1, new int[] {1, 1, 1}), 1, 1, 1, 0, 1);
     }
 
+    /** Promise 18: from the first SHEET to the last, BEST has it as soon as it is there. */
+    private static void sheetCountsAtOnce() {
+        ChipBoards x = new ChipBoards();
+        dueWay("no SHEET yet", x, 2, 2, 0, 0);
+        for (int sheet = 0; sheet < 6; sheet++) {
+            CHECK.due("SHEET " + sheet, x.sheet(2, 2, 10 + sheet), sheet);
+            CHECK.due("BEST with SHEET " + sheet, x.best(2, 2), 10 + sheet);
+            CHECK.due("how many of it", x.cuts(2, 2, sheet), 1);
+            CHECK.due("no SHEET: it is too wide", x.sheet(25, 2, 99), -1);
+            CHECK.due("BEST as before", x.best(2, 2), 10 + sheet);
+        }
+    }
+
     /** Promise 19: "NONE: w, h are not 1 .. 24". */
     private static void bestOfNoBoard() {
         Edges[] states = {NEW, SOME, FULL};
@@ -135,7 +149,7 @@ public final class SheetEdgesTest {
         ones.told(576 * 999, "best", 24, 24);
         ones.told(576, "cuts", 24, 24, 0);
         ones.told(575, "cuts", 24, 24, -1);
-        FULL.told(10, "best", 2, 7);
+        FULL.told(10, "best", 3, 7);
     }
 
     /** Terms 4: a SHEET that is "not wider, not higher than it; the rest is lost". */
@@ -234,10 +248,10 @@ public final class SheetEdgesTest {
     private static void cutsOfTheLastSheet() {
         for (int sheet = 0; sheet < 6; sheet++) {
             for (int other = 0; other < 6; other++) {
-                FULL.told(sheet == other ? 1 : 0, "cuts", 2 + sheet, 7 - sheet, other);
+                FULL.told(sheet == other ? 1 : 0, "cuts", 3 + sheet, 7 - sheet, other);
             }
         }
-        SHORT.told(1, "cuts", 6, 3, 4);
+        SHORT.told(1, "cuts", 7, 3, 4);
     }
 
     /** Terms 4: "to be lost or a SHEET .. ahead of a cut": what is worth nothing is not cut. */

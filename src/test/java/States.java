@@ -62,7 +62,7 @@ final class States {
 
     static void bins(ChipBoards x, int many) {
         for (int bin = 0; bin < many; bin++) {
-            x.bin(4 * bin, bin % 2 == 1);
+            x.bin(4 * bin, bin % 3 == 0);
             x.fill(bin, 10000 + bin);
         }
     }
@@ -88,7 +88,7 @@ final class States {
 
     static void sheets(ChipBoards x, int many) {
         for (int sheet = 0; sheet < many; sheet++) {
-            x.sheet(2 + sheet, 7 - sheet, 10 + sheet);
+            x.sheet(3 + sheet, 7 - sheet, 10 + sheet);
         }
     }
 }
