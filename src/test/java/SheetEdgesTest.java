@@ -19,6 +19,7 @@ public final class SheetEdgesTest {
         sheetsAreNotTurned();
         partsAreOneAtLeast();
         noPartOfNothing();
+        bestThatWasGreater();
         sawBetweenTwoSheets();
         cutsOfNoBoard();
         cutsOfNoSheet();
@@ -202,6 +203,19 @@ public final class SheetEdgesTest {
             sheet.told(1, "cuts", 5 + saw, two, -1);
             sheet.told(1, "cuts", two, 5 + saw, -1);
         }
+    }
+
+    /** Terms 4: "each is 1 at least": with SAW 0 a BOARD is no part of itself, whatever it was worth before. */
+    private static void bestThatWasGreater() {
+        ChipBoards x = sheets(0, new int[] {2, 2, 5});
+        x.image(0);
+        x.sheet(1, 1, 50);
+        dueWay("a SHEET more", x, 2, 2, 200, 3, 0, 4);
+        x.again(0);
+        dueWay("the SHEET is no more", x, 2, 2, 5, 0, 1);
+        dueWay("the SHEET is no more", x, 24, 24, 144 * 5, 143, 144);
+        dueWay("the SHEET is no more", x, 1, 24, 0, 0, 0);
+        dueWay("the SHEET is no more", x, 24, 1, 0, 0, 0);
     }
 
     /** Terms 4: two SHEETS and SAW, just as wide as the BOARD and one more. */
