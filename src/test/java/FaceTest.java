@@ -33,6 +33,15 @@ public final class FaceTest {
         CHECK.finish();
     }
 
+    /** The names of all calls of the face. */
+    static Set<String> callNames() {
+        Set<String> names = new TreeSet<>();
+        for (String one : FACE) {
+            names.add(one.substring(one.indexOf(' ') + 1, one.indexOf('(')));
+        }
+        return names;
+    }
+
     private static String signature(Method method) {
         List<String> kinds = new ArrayList<>();
         for (Class<?> kind : method.getParameterTypes()) {
@@ -51,6 +60,8 @@ public final class FaceTest {
                 names.add(method.getName());
                 CHECK.due(method.getName() + " is public", Modifier.isPublic(method.getModifiers()), true);
                 CHECK.due(method.getName() + " is static", Modifier.isStatic(method.getModifiers()), false);
+            } else {
+                CHECK.due(signature(method) + " bears a public name", callNames().contains(method.getName()), false);
             }
         }
         CHECK.due("the methods are the face's: " + got, got.equals(want), true);
@@ -97,8 +108,8 @@ public final class FaceTest {
     }
 
     private static void source() throws Exception {
-        String path = System.getProperty("chipboards.source", "src/main/java/ChipBoards.java");
-        String code = Files.readString(Path.of(path)).replaceAll("(?s)/\\*.*?\\*/", "").replaceAll("//.*", "");
+        Path path = Path.of(System.getProperty("chipboards.root", ""), "src/main/java/ChipBoards.java");
+        String code = Files.readString(path).replaceAll("(?s)/\\*.*?\\*/", "").replaceAll("//.*", "");
         for (String word : BANNED) {
             Matcher found = Pattern.compile("\\b" + word + "\\b").matcher(code);
             CHECK.due("the word " + word + " is in the source", found.find(), false);
